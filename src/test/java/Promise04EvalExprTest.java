@@ -7,6 +7,7 @@ final class Promise04EvalExprTest {
     againstWideArithmetic();
     longerExpressions();
     everyOtherCase();
+    fullTables();
     sealedAndUnsealed();
     Check.end();
   }
@@ -75,6 +76,29 @@ final class Promise04EvalExprTest {
       Check.due("evalExpr(" + e + ")", f.evalExpr(e, 5, 5), 0);
     }
     Check.due("evalExpr(0)", f.evalExpr(0, 5, 5), 7);
+  }
+
+  /** All 16 expressions made, and the last of the pool's 128 tokens ends a well-formed one. */
+  private static void fullTables() {
+    StreamFuse f = new StreamFuse(4, 16, 8);
+    for (int e = 0; e < 8; e++) {
+      Check.expr(f, "x 1 + 1 + 1 + 1 + 1 + 1 + 1 +");
+    }
+    Check.expr(f, "x y + 2 + 3 +");
+    Check.expr(f, "y");
+    Check.due("Q_TOKENS", f.query(StreamFuse.Q_TOKENS), 128);
+    Check.due("the last token", f.evalExpr(9, 1, 2), 2);
+    Check.due("the one before", f.evalExpr(8, 1, 2), 8);
+    Check.due("the first one", f.evalExpr(0, 1, 2), 8);
+    for (int e = 10; e < 16; e++) {
+      f.newExpr();
+    }
+    Check.due("Q_EXPRS", f.query(StreamFuse.Q_EXPRS), 16);
+    for (int e = 10; e <= 17; e++) {
+      Check.due("evalExpr(" + e + ")", f.evalExpr(e, 1, 2), 0);
+    }
+    int r = f.range(0, 2);
+    Check.refused("map with expression 16", f, () -> f.map(r, 16));
   }
 
   private static void sealedAndUnsealed() {
