@@ -3,6 +3,9 @@ import java.util.List;
 
 /** What the tests share: comparing answers, typing in expressions, and looking at a whole object. */
 final class Check {
+  static final int MIN = Integer.MIN_VALUE;
+  static final int MAX = Integer.MAX_VALUE;
+
   private static int wrong = 0;
 
   private Check() {}
@@ -41,6 +44,14 @@ final class Check {
     return e;
   }
 
+  /** A concatMap over a range, whose list 1, 2, ... 128 is as long as one can be. */
+  static int longest(StreamFuse f) {
+    int eight = expr(f, "8");
+    int number = expr(f, "x 8 * y + 1 +");
+    int source = f.range(0, 16);
+    return f.concatMap(source, eight, number);
+  }
+
   /** The whole list of a node, read by a run of its own. */
   static List<Integer> list(StreamFuse f, int node, int mode) {
     List<Integer> out = new ArrayList<>();
@@ -56,6 +67,27 @@ final class Check {
     same(what + ", fused", list(f, node, StreamFuse.MODE_FUSED), List.of(want));
     same(what + ", pull", list(f, node, StreamFuse.MODE_PULL), List.of(want));
     due(what + ", length", f.nodeInfo(node, StreamFuse.F_LENGTH), want.length);
+  }
+
+  /** The answers of query(0), query(1), ... in order. */
+  static void queries(String when, StreamFuse f, int... want) {
+    for (int q = 0; q < want.length; q++) {
+      due(when + ", query(" + q + ")", f.query(q), want[q]);
+    }
+  }
+
+  /** The answers of nodeInfo(node, 0), nodeInfo(node, 1), ... in order. */
+  static void info(String when, StreamFuse f, int node, int... want) {
+    for (int field = 0; field < want.length; field++) {
+      due(when + ", nodeInfo(" + node + ", " + field + ")", f.nodeInfo(node, field), want[field]);
+    }
+  }
+
+  /** One call of run, with the count and the end flag that are due behind it. */
+  static void step(StreamFuse f, int k, int answer, int total, int ended) {
+    due("run(" + k + ")", f.run(k), answer);
+    due("Q_TOTAL after run(" + k + ")", f.query(StreamFuse.Q_TOTAL), total);
+    due("Q_ENDED after run(" + k + ")", f.query(StreamFuse.Q_ENDED), ended);
   }
 
   /** Every answer of the getters, to see that a call has changed nothing. */

@@ -5,8 +5,8 @@
 final class ModelTest {
   private static final int OBJECTS = 3000;
   private static final int CALLS = 150;
-  private static final int[] EDGES = {Integer.MIN_VALUE, Integer.MIN_VALUE + 1, -2, -1, 0, 1, 2, 8, 9, 16, 17, 32,
-    33, 128, Integer.MAX_VALUE - 1, Integer.MAX_VALUE};
+  private static final int[] EDGES = {Check.MIN, Check.MIN + 1, -2, -1, 0, 1, 2, 8, 9, 16, 17, 32, 33, 128,
+    Check.MAX - 1, Check.MAX};
 
   private long state;
   private StreamFuse one;

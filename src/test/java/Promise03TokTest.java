@@ -6,17 +6,22 @@ final class Promise03TokTest {
     refusesBeyondDepth();
     refusesBeyondTokens();
     refusesBeyondPool();
+    refusesBehindEightFullOnes();
     refusesSealed();
     argMattersForConstAlone();
+    nothingElseChanges();
     Check.end();
   }
 
   private static void refusesWithoutExpression() {
     StreamFuse f = new StreamFuse(4, 4, 8);
+    f.range(0, 3);
     for (int op = -1; op <= 10; op++) {
       int o = op;
       Check.refused("tok without expression, op " + op, f, () -> f.tok(o, 1));
     }
+    Check.due("the first expression", f.newExpr(), 0);
+    Check.due("is empty", f.tok(StreamFuse.OP_X, 0), 1);
   }
 
   private static void refusesUnknownOps() {
@@ -24,7 +29,7 @@ final class Promise03TokTest {
     f.newExpr();
     f.tok(StreamFuse.OP_X, 0);
     f.tok(StreamFuse.OP_Y, 0);
-    for (int op : new int[] {Integer.MIN_VALUE, -2, -1, 10, 11, Integer.MAX_VALUE}) {
+    for (int op : new int[] {Check.MIN, -2, -1, 10, 11, 16, 128, Check.MAX}) {
       Check.refused("tok(" + op + ")", f, () -> f.tok(op, 1));
     }
     Check.due("the depth is untouched", f.tok(StreamFuse.OP_SUB, 0), 1);
@@ -62,30 +67,33 @@ final class Promise03TokTest {
     Check.due("and then a push", f.tok(StreamFuse.OP_X, 0), 8);
   }
 
-  private static void fill(StreamFuse f) {
-    f.newExpr();
-    f.tok(StreamFuse.OP_X, 0);
-    for (int i = 0; i < 7; i++) {
-      f.tok(StreamFuse.OP_CONST, 1);
-      f.tok(StreamFuse.OP_ADD, 0);
+  /** Each of the first 16 tokens fits, none more does: in the middle of the pool as at its start. */
+  private static void refusesBeyondTokens() {
+    StreamFuse f = new StreamFuse(4, 4, 8);
+    for (int e = 0; e < 3; e++) {
+      Check.due("newExpr", f.newExpr(), e);
+      Check.due("token 1", f.tok(StreamFuse.OP_X, 0), 1);
+      for (int t = 2; t <= 16; t++) {
+        Check.due("token " + t, f.tok(t % 2 == 0 ? StreamFuse.OP_CONST : StreamFuse.OP_ADD, 1), t % 2 == 0 ? 2 : 1);
+        Check.due("Q_TOKENS", f.query(StreamFuse.Q_TOKENS), 16 * e + t);
+      }
+      Check.refused("binary as token 17", f, () -> f.tok(StreamFuse.OP_ADD, 0));
+      Check.refused("push as token 17", f, () -> f.tok(StreamFuse.OP_X, 0));
     }
   }
 
-  private static void refusesBeyondTokens() {
-    StreamFuse f = new StreamFuse(4, 4, 8);
-    fill(f);
-    Check.due("token 16", f.tok(StreamFuse.OP_CONST, 1), 2);
-    Check.refused("binary as token 17", f, () -> f.tok(StreamFuse.OP_ADD, 0));
-    Check.refused("push as token 17", f, () -> f.tok(StreamFuse.OP_X, 0));
-    Check.due("a new expression has room", f.newExpr(), 1);
-    Check.due("tok", f.tok(StreamFuse.OP_X, 0), 1);
-    Check.due("Q_TOKENS", f.query(StreamFuse.Q_TOKENS), 17);
+  private static void fill(StreamFuse f, int tokens) {
+    f.newExpr();
+    f.tok(StreamFuse.OP_X, 0);
+    for (int t = 2; t <= tokens; t++) {
+      f.tok(t % 2 == 0 ? StreamFuse.OP_CONST : StreamFuse.OP_ADD, 1);
+    }
   }
 
   private static void refusesBeyondPool() {
     StreamFuse f = new StreamFuse(4, 16, 8);
     for (int e = 0; e < 8; e++) {
-      fill(f);
+      fill(f, 15);
       Check.due("Q_TOKENS", f.query(StreamFuse.Q_TOKENS), 15 * e + 15);
     }
     f.newExpr();
@@ -99,6 +107,21 @@ final class Promise03TokTest {
     Check.refused("push in a new expression", f, () -> f.tok(StreamFuse.OP_X, 0));
     for (int e = 0; e < 8; e++) {
       Check.due("evalExpr", f.evalExpr(e, 100 * e, 0), 100 * e + 7);
+    }
+  }
+
+  /** Token 128 is also token 16 of its expression: both bounds are reached at once. */
+  private static void refusesBehindEightFullOnes() {
+    StreamFuse f = new StreamFuse(4, 16, 8);
+    for (int e = 0; e < 8; e++) {
+      fill(f, 16);
+    }
+    Check.due("Q_TOKENS", f.query(StreamFuse.Q_TOKENS), 128);
+    Check.refused("binary as token 129", f, () -> f.tok(StreamFuse.OP_ADD, 0));
+    Check.due("newExpr", f.newExpr(), 8);
+    for (int op = StreamFuse.OP_CONST; op <= StreamFuse.OP_EQ; op++) {
+      int o = op;
+      Check.refused("tok(" + op + ") as token 129", f, () -> f.tok(o, 0));
     }
   }
 
@@ -119,7 +142,7 @@ final class Promise03TokTest {
   }
 
   private static void argMattersForConstAlone() {
-    int[] args = {0, 1, -1, 7, Integer.MIN_VALUE, Integer.MAX_VALUE};
+    int[] args = {0, 1, -1, 7, Check.MIN, Check.MAX};
     for (int arg : args) {
       StreamFuse f = new StreamFuse(4, 4, 8);
       f.newExpr();
@@ -131,5 +154,22 @@ final class Promise03TokTest {
       f.tok(StreamFuse.OP_CONST, arg);
       Check.due("const " + arg, f.evalExpr(1, 9, 4), arg);
     }
+  }
+
+  private static void nothingElseChanges() {
+    StreamFuse f = new StreamFuse(4, 4, 8);
+    int e = Check.expr(f, "x 5 *");
+    f.start(f.map(f.range(1, 4), e), StreamFuse.MODE_PULL);
+    f.run(2);
+    f.newExpr();
+    for (int d = 1; d <= 8; d++) {
+      Check.due("push", f.tok(StreamFuse.OP_Y, 0), d);
+      Check.queries("behind tok", f, 2, 2, 3 + d, 1, 1, 1, 2, 0);
+      Check.due("another expression", f.evalExpr(e, 6, 1), 30);
+      Check.due("a node", f.nodeInfo(1, StreamFuse.F_LENGTH), 4);
+      Check.due("a kept item", f.outValue(1), 10);
+    }
+    Check.step(f, 8, 2, 4, 1);
+    Check.due("the run's last item", f.outValue(3), 20);
   }
 }

@@ -1,12 +1,16 @@
+import java.util.List;
+
 final class Promise04EvalExprTest {
-  private static final int MIN = Integer.MIN_VALUE;
-  private static final int MAX = Integer.MAX_VALUE;
+  private static final int MIN = Check.MIN;
+  private static final int MAX = Check.MAX;
 
   public static void main(String[] args) {
     arithmetic();
     againstWideArithmetic();
     longerExpressions();
-    everyOtherCase();
+    wrapsStepByStep();
+    noSuchExpression();
+    depthOtherThanOne();
     fullTables();
     sealedAndUnsealed();
     Check.end();
@@ -65,17 +69,49 @@ final class Promise04EvalExprTest {
     Check.due("the same again", f.evalExpr(poly, 5, 4), 23);
   }
 
-  private static void everyOtherCase() {
+  /** Each operator's result is cut to 32 bits before the next one sees it. */
+  private static void wrapsStepByStep() {
     StreamFuse f = new StreamFuse(4, 16, 8);
+    Check.due("(MAX + 1) / 2", f.evalExpr(Check.expr(f, "x 1 + 2 /"), MAX, 0), -1073741824);
+    Check.due("(MIN - 1) / 2", f.evalExpr(Check.expr(f, "x 1 - 2 /"), MIN, 0), 1073741823);
+    Check.due("(65536 * 65536) = 0", f.evalExpr(Check.expr(f, "x x * 0 ="), 65536, 0), 1);
+    Check.due("(MIN / -1) < 0", f.evalExpr(Check.expr(f, "x y / 0 <"), MIN, -1), 1);
+    Check.due("MIN - (MIN / -1) * -1", f.evalExpr(Check.expr(f, "x x y / y * -"), MIN, -1), 0);
+    Check.due("5 / (x - x) + 3", f.evalExpr(Check.expr(f, "5 x x - / 3 +"), 4, 0), 3);
+    Check.due("5 % (x - x) + 3", f.evalExpr(Check.expr(f, "5 x x - % 3 +"), 4, 0), 3);
+    Check.due("a constant MIN", f.evalExpr(Check.expr(f, "-2147483648"), 1, 1), MIN);
+    Check.due("a constant MAX", f.evalExpr(Check.expr(f, "2147483647"), 1, 1), MAX);
+  }
+
+  private static void noSuchExpression() {
+    StreamFuse f = new StreamFuse(4, 16, 8);
+    Check.due("none made", f.evalExpr(0, 5, 5), 0);
     Check.expr(f, "7");
-    f.newExpr();
-    f.tok(StreamFuse.OP_CONST, 7);
-    f.tok(StreamFuse.OP_CONST, 8);
-    f.newExpr();
-    for (int e : new int[] {MIN, -2, -1, 1, 2, 3, 4, 15, 16, 17, 1000, MAX}) {
+    for (int e : new int[] {MIN, MIN + 1, -16, -2, -1, 1, 2, 15, 16, 17, 128, 1000, MAX - 1, MAX}) {
       Check.due("evalExpr(" + e + ")", f.evalExpr(e, 5, 5), 0);
     }
     Check.due("evalExpr(0)", f.evalExpr(0, 5, 5), 7);
+  }
+
+  /** An expression on its way through every depth has a value at depth 1 alone, latest or not. */
+  private static void depthOtherThanOne() {
+    StreamFuse f = new StreamFuse(4, 16, 8);
+    f.newExpr();
+    Check.due("zero tokens", f.evalExpr(0, 5, 5), 0);
+    for (int depth = 1; depth <= 8; depth++) {
+      Check.due("push", f.tok(StreamFuse.OP_CONST, 7), depth);
+      Check.due("up at depth " + depth, f.evalExpr(0, 5, 5), depth == 1 ? 7 : 0);
+    }
+    for (int depth = 7; depth >= 1; depth--) {
+      Check.due("binary", f.tok(StreamFuse.OP_ADD, 0), depth);
+      Check.due("down at depth " + depth, f.evalExpr(0, 5, 5), depth == 1 ? 56 : 0);
+    }
+    f.tok(StreamFuse.OP_X, 0);
+    f.newExpr();
+    f.newExpr();
+    Check.due("an earlier one at depth 2", f.evalExpr(0, 5, 5), 0);
+    Check.due("an earlier one of zero tokens", f.evalExpr(1, 5, 5), 0);
+    Check.due("the latest one of zero tokens", f.evalExpr(2, 5, 5), 0);
   }
 
   /** All 16 expressions made, and the last of the pool's 128 tokens ends a well-formed one. */
@@ -110,7 +146,7 @@ final class Promise04EvalExprTest {
     Check.due("sealed", f.evalExpr(e, 6, 7), 42);
     f.start(1, 0);
     f.run(2);
-    java.util.List<Integer> before = Check.seen(f);
+    List<Integer> before = Check.seen(f);
     f.evalExpr(e, 1, 1);
     f.evalExpr(-1, 1, 1);
     Check.same("state after evalExpr", Check.seen(f), before);

@@ -1,9 +1,13 @@
+import java.util.List;
+
 final class Promise09ZipTest {
   public static void main(String[] args) {
+    Stages.common("zip, as a");
+    Stages.common("zip, as b");
     values();
-    wrongSources();
-    wrongExprs();
-    fullOfNodes();
+    everyPairOfLengths();
+    sameSourceTwice();
+    oneGoodSource();
     duringRun();
     Check.end();
   }
@@ -22,58 +26,58 @@ final class Promise09ZipTest {
     Check.values("b is shorter", f, zipOf(f, 4, 2, minus), 99, 108);
     Check.values("a is empty", f, zipOf(f, 0, 2, minus));
     Check.values("b is empty", f, zipOf(f, 2, 0, minus));
-    int[] want = {StreamFuse.K_ZIP, 0, 1, minus, -1, 0, 0, 0, 3, 0};
-    for (int field = 0; field < want.length; field++) {
-      Check.due("nodeInfo(2, " + field + ")", f.nodeInfo(2, field), want[field]);
-    }
+    Check.info("zip", f, 2, StreamFuse.K_ZIP, 0, 1, minus, -1, 0, 0, 0, 3, 0);
     Check.due("a is consumed", f.nodeInfo(0, StreamFuse.F_CONSUMED), 1);
     Check.due("b is consumed", f.nodeInfo(1, StreamFuse.F_CONSUMED), 1);
     Check.due("sealed", f.tok(StreamFuse.OP_X, 0), -1);
   }
 
-  private static void wrongSources() {
-    StreamFuse f = new StreamFuse(8, 8, 8);
-    int used = f.range(0, 2);
-    f.take(used, 1);
-    int free = f.range(0, 4);
-    int e = Check.expr(f, "x");
-    for (int s : new int[] {Integer.MIN_VALUE, -1, 3, 8, 16, 17, Integer.MAX_VALUE, used}) {
-      Check.refused("zip, a = " + s, f, () -> f.zip(s, free, e));
-      Check.refused("zip, b = " + s, f, () -> f.zip(free, s, e));
-      Check.refused("zip, both = " + s, f, () -> f.zip(s, s, e));
+  private static void everyPairOfLengths() {
+    for (int lenA = 0; lenA <= 16; lenA++) {
+      for (int lenB = 0; lenB <= 16; lenB++) {
+        StreamFuse f = new StreamFuse(4, 4, 8);
+        int e = Check.expr(f, "x 100 * y +");
+        int node = zipOf(f, lenA, lenB, e);
+        int count = Math.min(lenA, lenB);
+        Check.due("length of " + lenA + " and " + lenB, f.nodeInfo(node, StreamFuse.F_LENGTH), count);
+        List<Integer> list = Check.list(f, node, StreamFuse.MODE_FUSED);
+        for (int i = 0; i < count; i++) {
+          Check.due("item " + i, list.get(i), 100 * (10 + i) + 1 + i);
+        }
+      }
     }
-    Check.refused("zip with itself", f, () -> f.zip(free, free, e));
+  }
+
+  private static void sameSourceTwice() {
+    StreamFuse f = new StreamFuse(8, 8, 8);
+    f.range(0, 4);
+    f.range(0, 0);
+    f.take(0, 1);
+    int e = Check.expr(f, "x");
+    for (int s : new int[] {Check.MIN, -1, 0, 1, 2, 3, 16, Check.MAX}) {
+      Check.refused("zip of " + s + " with itself", f, () -> f.zip(s, s, e));
+    }
     Check.due("nothing was sealed", f.tok(StreamFuse.OP_Y, 0), 2);
     Check.due("tok", f.tok(StreamFuse.OP_ADD, 0), 1);
-    Check.due("zip", f.zip(free, 1, e), 3);
+    Check.due("nothing was consumed", f.zip(1, 2, e), 3);
+  }
+
+  /** One good source does not make up for the other, and stays free. */
+  private static void oneGoodSource() {
+    StreamFuse f = new StreamFuse(8, 8, 8);
+    int used = f.range(0, 2);
+    int user = f.take(used, 1);
+    int free = f.range(0, 4);
+    int e = Check.expr(f, "x");
+    for (int s : new int[] {Check.MIN, -1, 3, 8, 16, 17, Check.MAX, used}) {
+      Check.refused("zip, a = " + s, f, () -> f.zip(s, free, e));
+      Check.refused("zip, b = " + s, f, () -> f.zip(free, s, e));
+    }
+    Check.due("zip", f.zip(free, user, e), 3);
     int fresh = f.range(0, 1);
     Check.refused("zip of a consumed a", f, () -> f.zip(free, fresh, e));
-    Check.refused("zip of a consumed b", f, () -> f.zip(fresh, 1, e));
+    Check.refused("zip of a consumed b", f, () -> f.zip(fresh, user, e));
     Check.due("zip of a zip", f.zip(fresh, 3, e), 5);
-  }
-
-  private static void wrongExprs() {
-    StreamFuse f = new StreamFuse(8, 8, 8);
-    int a = f.range(0, 2);
-    int b = f.range(0, 2);
-    f.newExpr();
-    f.newExpr();
-    f.tok(StreamFuse.OP_X, 0);
-    f.tok(StreamFuse.OP_Y, 0);
-    for (int e : new int[] {Integer.MIN_VALUE, -1, 0, 1, 2, 8, 16, 17, Integer.MAX_VALUE}) {
-      Check.refused("zip with expression " + e, f, () -> f.zip(a, b, e));
-    }
-    Check.due("tok", f.tok(StreamFuse.OP_MUL, 0), 1);
-    Check.values("zip", f, f.zip(a, b, 1), 0, 1);
-  }
-
-  private static void fullOfNodes() {
-    StreamFuse f = new StreamFuse(4, 4, 8);
-    int e = Check.expr(f, "x");
-    for (int n = 0; n < 4; n++) {
-      f.range(0, 2);
-    }
-    Check.refused("zip at nodeCap", f, () -> f.zip(0, 1, e));
   }
 
   private static void duringRun() {

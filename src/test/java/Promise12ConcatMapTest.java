@@ -2,11 +2,10 @@ import java.util.List;
 
 final class Promise12ConcatMapTest {
   public static void main(String[] args) {
-    Stages.sources("concatMap", (f, s, e) -> f.concatMap(s, e, e));
-    Stages.exprs("concatMap, both", (f, s, e) -> f.concatMap(s, e, e));
+    Stages.common("concatMap");
     values();
-    clamping();
-    longestList();
+    clampsTheCount();
+    clampsEachCount();
     wrongExprs();
     refusedOverAnother();
     twoBesideEachOther();
@@ -21,43 +20,38 @@ final class Promise12ConcatMapTest {
     Check.values("x items each", f, f.concatMap(f.range(0, 4), self, tens), 10, 20, 21, 30, 31, 32);
     Check.values("el and ev the same", f, f.concatMap(f.range(1, 3), both, both), 1, 2, 3, 3, 4, 5);
     Check.values("of nothing", f, f.concatMap(f.range(1, 0), self, tens));
-    int[] want = {StreamFuse.K_CONCATMAP, 0, -1, self, tens, 0, 0, 0, 6, 1};
-    for (int field = 0; field < want.length; field++) {
-      Check.due("nodeInfo(1, " + field + ")", f.nodeInfo(1, field), want[field]);
-    }
+    Check.info("concatMap", f, 1, StreamFuse.K_CONCATMAP, 0, -1, self, tens, 0, 0, 0, 6, 1);
     Check.due("both the same, el", f.nodeInfo(3, StreamFuse.F_EXPR1), both);
     Check.due("both the same, ev", f.nodeInfo(3, StreamFuse.F_EXPR2), both);
   }
 
-  private static void clamping() {
-    StreamFuse f = new StreamFuse(16, 8, 8);
-    int self = Check.expr(f, "x");
-    int index = Check.expr(f, "y");
-    Check.values("below 0", f, f.concatMap(f.range(-3, 4), self, index));
-    Check.values("MIN", f, f.concatMap(f.range(Integer.MIN_VALUE, 1), self, index));
-    Check.values("MAX", f, f.concatMap(f.range(Integer.MAX_VALUE, 1), self, index), 0, 1, 2, 3, 4, 5, 6, 7);
-    Check.values("8", f, f.concatMap(f.range(8, 1), self, index), 0, 1, 2, 3, 4, 5, 6, 7);
-    Check.values("9", f, f.concatMap(f.range(9, 1), self, index), 0, 1, 2, 3, 4, 5, 6, 7);
-    Check.values("7", f, f.concatMap(f.range(7, 1), self, index), 0, 1, 2, 3, 4, 5, 6);
-    Check.values("Y is 0 for el", f, f.concatMap(f.range(7, 1), index, self));
+  /** "below 0 becomes 0, above MAX_INNER becomes MAX_INNER" */
+  private static void clampsTheCount() {
+    int[][] rows = {{Check.MIN, 0}, {Check.MIN + 1, 0}, {-9, 0}, {-8, 0}, {-2, 0}, {-1, 0}, {0, 0}, {1, 1}, {2, 2},
+      {6, 6}, {7, 7}, {8, 8}, {9, 8}, {10, 8}, {16, 8}, {128, 8}, {Check.MAX - 1, 8}, {Check.MAX, 8}};
+    for (int[] row : rows) {
+      StreamFuse f = new StreamFuse(4, 4, 8);
+      int count = Check.expr(f, Integer.toString(row[0]));
+      int index = Check.expr(f, "y 100 +");
+      int node = f.concatMap(f.range(3, 1), count, index);
+      List<Integer> list = Check.list(f, node, StreamFuse.MODE_PULL);
+      List<Integer> most = List.of(100, 101, 102, 103, 104, 105, 106, 107);
+      Check.same("items for a count of " + row[0], list, most.subList(0, row[1]));
+      Check.due("F_LENGTH", f.nodeInfo(node, StreamFuse.F_LENGTH), row[1]);
+    }
   }
 
-  private static void longestList() {
+  /** Each item has a count of its own: clamped ones stand beside others. */
+  private static void clampsEachCount() {
     StreamFuse f = new StreamFuse(16, 8, 8);
-    int eight = Check.expr(f, "8");
-    int number = Check.expr(f, "x 8 * y +");
-    int sum = Check.expr(f, "x y +");
-    int node = f.concatMap(f.range(0, 16), eight, number);
-    Check.due("F_LENGTH", f.nodeInfo(node, StreamFuse.F_LENGTH), 128);
-    List<Integer> list = Check.list(f, node, StreamFuse.MODE_PULL);
-    for (int i = 0; i < 128; i++) {
-      Check.due("item " + i, list.get(i), i);
-    }
-    int second = f.concatMap(f.range(0, 16), eight, number);
-    int zipped = f.zip(node, second, sum);
-    int summed = f.scan(zipped, 0, sum);
-    Check.due("a stage behind it", f.nodeInfo(summed, StreamFuse.F_LENGTH), 128);
-    Check.due("its last item", Check.list(f, summed, 0).get(127), 127 * 128);
+    int self = Check.expr(f, "x");
+    int tens = Check.expr(f, "x 10 * y +");
+    Check.values("counts -1, 0, 1", f, f.concatMap(f.range(-1, 3), self, tens), 10);
+    Check.values("counts 8 and 9", f, f.concatMap(f.range(8, 2), self, tens), 80, 81, 82, 83, 84, 85, 86, 87,
+        90, 91, 92, 93, 94, 95, 96, 97);
+    Check.values("counts MAX and MIN", f, f.concatMap(f.range(Check.MAX, 2), self, Check.expr(f, "y")),
+        0, 1, 2, 3, 4, 5, 6, 7);
+    Check.values("Y is 0 for el", f, f.concatMap(f.range(7, 1), Check.expr(f, "y"), self));
   }
 
   private static void wrongExprs() {
@@ -68,7 +62,7 @@ final class Promise12ConcatMapTest {
     f.newExpr();
     f.tok(StreamFuse.OP_X, 0);
     f.tok(StreamFuse.OP_X, 0);
-    for (int e : new int[] {Integer.MIN_VALUE, -1, 1, 2, 3, 8, 16, 17, Integer.MAX_VALUE}) {
+    for (int e : new int[] {Check.MIN, -1, 1, 2, 3, 8, 16, 17, Check.MAX}) {
       Check.refused("concatMap, el = " + e, f, () -> f.concatMap(s, e, good));
       Check.refused("concatMap, ev = " + e, f, () -> f.concatMap(s, good, e));
     }

@@ -1,7 +1,10 @@
 final class Promise13StartTest {
   public static void main(String[] args) {
     treeSizes();
-    refusals();
+    largestTrees();
+    noSuchRoot();
+    noSuchMode();
+    previousRunStays();
     replacesTheRun();
     Check.end();
   }
@@ -24,26 +27,64 @@ final class Promise13StartTest {
     }
   }
 
-  private static void refusals() {
+  /** The largest trees that nodeCap leaves room for: one chain, and one that branches at every zip. */
+  private static void largestTrees() {
+    StreamFuse chain = new StreamFuse(16, 8, 8);
+    StreamFuse branched = new StreamFuse(16, 8, 8);
+    int e = Check.expr(branched, "x");
+    chain.range(0, 3);
+    branched.range(0, 3);
+    for (int n = 1; n < 16; n++) {
+      chain.drop(n - 1, 0);
+      Check.due("start on the end of a chain", chain.start(n, n % 2), n + 1);
+    }
+    for (int n = 2; n < 16; n += 2) {
+      branched.range(0, 3);
+      Check.due("start on one branch", branched.start(n - 1, 0), 1);
+      Check.due("zip", branched.zip(n - 2, n - 1, e), n);
+      Check.due("start on a zip", branched.start(n, 1), n + 1);
+    }
+  }
+
+  private static void noSuchRoot() {
+    StreamFuse f = new StreamFuse(16, 8, 8);
+    for (int made = 0; made <= 16; made++) {
+      for (int root : new int[] {Check.MIN, Check.MIN + 1, -2, -1, made, made + 1, 16, 17, Check.MAX - 1, Check.MAX}) {
+        Check.refused("start on " + root + " of " + made, f, () -> f.start(root, StreamFuse.MODE_PULL));
+        Check.refused("start on " + root + " in mode 2", f, () -> f.start(root, 2));
+      }
+      f.range(made, 2);
+    }
+    Check.due("start on the last of 16", f.start(15, StreamFuse.MODE_PULL), 1);
+  }
+
+  private static void noSuchMode() {
     StreamFuse f = new StreamFuse(8, 8, 8);
-    Check.refused("start without nodes", f, () -> f.start(0, 0));
     int r = f.range(4, 5);
-    for (int round = 0; round < 3; round++) {
-      for (int root : new int[] {Integer.MIN_VALUE, -1, 1, 7, 8, 16, 17, Integer.MAX_VALUE}) {
-        Check.refused("start on " + root, f, () -> f.start(root, 0));
-      }
-      for (int mode : new int[] {Integer.MIN_VALUE, -1, 2, 3, Integer.MAX_VALUE}) {
-        Check.refused("start in mode " + mode, f, () -> f.start(r, mode));
-      }
-      // The rounds: without a run, within one, and after its end.
-      if (round == 0) {
-        Check.due("start", f.start(r, 1), 1);
-        Check.due("run", f.run(2), 2);
-      } else if (round == 1) {
-        Check.due("the run goes on", f.run(8), 3);
+    for (int mode : new int[] {Check.MIN, Check.MIN + 1, -2, -1, 2, 3, 16, Check.MAX - 1, Check.MAX}) {
+      Check.refused("start in mode " + mode, f, () -> f.start(r, mode));
+    }
+  }
+
+  /** "any previous run stays as it was": before its first item, within, at its last item, and ended. */
+  private static void previousRunStays() {
+    int[][] steps = {{2, 2, 0}, {3, 3, 0}, {1, 0, 1}, {1, 0, 1}};
+    StreamFuse f = new StreamFuse(8, 8, 8);
+    int r = f.range(4, 5);
+    f.range(7, 7);
+    f.start(r, StreamFuse.MODE_PULL);
+    int total = 0;
+    for (int[] step : steps) {
+      Check.refused("start without a root", f, () -> f.start(2, StreamFuse.MODE_FUSED));
+      Check.refused("start without a mode", f, () -> f.start(1, 2));
+      total += step[1];
+      Check.step(f, step[0], step[1], total, step[2]);
+      for (int i = 0; i < 7; i++) {
+        Check.due("outValue(" + i + ")", f.outValue(i), i < total ? 4 + i : 0);
       }
     }
-    Check.due("the run stays ended", f.run(1), 0);
+    Check.refused("start after the end", f, () -> f.start(-1, 0));
+    Check.queries("the run after the end", f, 2, 0, 0, 1, r, StreamFuse.MODE_PULL, 5, 1);
   }
 
   private static void replacesTheRun() {
@@ -54,10 +95,7 @@ final class Promise13StartTest {
     f.run(8);
     Check.due("ended", f.query(StreamFuse.Q_ENDED), 1);
     Check.due("start", f.start(b, StreamFuse.MODE_PULL), 2);
-    int[] want = {3, 0, 0, 1, b, StreamFuse.MODE_PULL, 0, 0};
-    for (int q = 0; q < want.length; q++) {
-      Check.due("query(" + q + ")", f.query(q), want[q]);
-    }
+    Check.queries("behind start", f, 3, 0, 0, 1, b, StreamFuse.MODE_PULL, 0, 0);
     Check.due("no item is kept", f.outValue(0), 0);
     Check.due("run", f.run(1), 1);
     Check.due("outValue(0)", f.outValue(0), 50);

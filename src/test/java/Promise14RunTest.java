@@ -1,3 +1,5 @@
+import java.util.List;
+
 final class Promise14RunTest {
   public static void main(String[] args) {
     withoutRun();
@@ -5,81 +7,109 @@ final class Promise14RunTest {
       clampsK(mode);
       endsOnTheAttemptAfterTheLast(mode);
       everySplit(mode);
+      longestList(mode);
+      nothingChangesOnceEnded(mode);
       emptyList(mode);
       stageCallsDuringRun(mode);
     }
     Check.end();
   }
 
+  /** Neither nodes nor a start that is refused make a run. */
   private static void withoutRun() {
     StreamFuse f = new StreamFuse(4, 4, 8);
     f.range(0, 3);
-    for (int k : new int[] {Integer.MIN_VALUE, -1, 0, 1, 8, Integer.MAX_VALUE}) {
+    f.start(0, 2);
+    f.start(1, 0);
+    for (int k : new int[] {Check.MIN, -1, 0, 1, 8, Check.MAX}) {
       Check.refused("run(" + k + ") without a run", f, () -> f.run(k));
     }
   }
 
+  /** "k is clamped into 1..outCap": every k around both ends, for every outCap. */
   private static void clampsK(int mode) {
-    int[][] rows = {{Integer.MIN_VALUE, 1}, {-1, 1}, {0, 1}, {1, 1}, {2, 2}, {9, 9}, {10, 10}, {11, 10},
-      {Integer.MAX_VALUE, 10}};
-    for (int[] row : rows) {
-      StreamFuse f = new StreamFuse(4, 4, 10);
-      f.start(f.range(0, 16), mode);
-      Check.due("run(" + row[0] + ")", f.run(row[0]), row[1]);
-      Check.due("Q_TOTAL", f.query(StreamFuse.Q_TOTAL), row[1]);
-      Check.due("Q_ENDED", f.query(StreamFuse.Q_ENDED), 0);
+    for (int outCap = 8; outCap <= 32; outCap++) {
+      int[] given = {Check.MIN, Check.MIN + 1, -outCap, -2, -1, 0, 1, 2, outCap - 1, outCap, outCap + 1, 33, 128,
+        Check.MAX - 1, Check.MAX};
+      for (int k : given) {
+        StreamFuse f = new StreamFuse(4, 4, outCap);
+        f.start(Check.longest(f), mode);
+        int clamped = k < 1 ? 1 : k > outCap ? outCap : k;
+        Check.step(f, k, clamped, clamped, 0);
+        Check.step(f, k, clamped, 2 * clamped, 0);
+        Check.due("the last item", f.outValue(2 * clamped - 1), 2 * clamped);
+      }
     }
-  }
-
-  private static void step(StreamFuse f, int k, int answer, int total, int ended) {
-    Check.due("run(" + k + ")", f.run(k), answer);
-    Check.due("Q_TOTAL after run(" + k + ")", f.query(StreamFuse.Q_TOTAL), total);
-    Check.due("Q_ENDED after run(" + k + ")", f.query(StreamFuse.Q_ENDED), ended);
   }
 
   private static void endsOnTheAttemptAfterTheLast(int mode) {
     StreamFuse f = new StreamFuse(4, 4, 8);
     int r = f.range(1, 5);
     f.start(r, mode);
-    step(f, 5, 5, 5, 0);
-    step(f, 1, 0, 5, 1);
-    step(f, 8, 0, 5, 1);
-    step(f, -1, 0, 5, 1);
+    Check.step(f, 5, 5, 5, 0);
+    Check.step(f, 1, 0, 5, 1);
+    Check.step(f, 8, 0, 5, 1);
+    Check.step(f, -1, 0, 5, 1);
     f.start(r, mode);
-    step(f, 2, 2, 2, 0);
-    step(f, 3, 3, 5, 0);
-    step(f, 3, 0, 5, 1);
+    Check.step(f, 2, 2, 2, 0);
+    Check.step(f, 3, 3, 5, 0);
+    Check.step(f, 3, 0, 5, 1);
     f.start(r, mode);
-    step(f, 3, 3, 3, 0);
-    step(f, 3, 2, 5, 1);
+    Check.step(f, 3, 3, 3, 0);
+    Check.step(f, 3, 2, 5, 1);
     Check.due("still active", f.query(StreamFuse.Q_ACTIVE), 1);
     Check.due("the items stay", f.outValue(4), 5);
   }
 
+  /** Every length of list by every k: whole calls, then the call that meets the end, then none more. */
   private static void everySplit(int mode) {
-    StreamFuse f = new StreamFuse(4, 4, 8);
-    int len = 13;
-    int r = f.range(100, len);
-    for (int k = 1; k <= 8; k++) {
-      f.start(r, mode);
-      int total = 0;
-      while (total + k <= len) {
-        step(f, k, k, total + k, 0);
-        for (int i = total; i < total + k; i++) {
-          Check.due("outValue(" + i + ")", f.outValue(i), 100 + i);
+    for (int len = 0; len <= 16; len++) {
+      StreamFuse f = new StreamFuse(4, 4, 8);
+      int r = f.range(100, len);
+      for (int k = 1; k <= 8; k++) {
+        f.start(r, mode);
+        int total = 0;
+        while (total + k <= len) {
+          Check.step(f, k, k, total + k, 0);
+          for (int i = total; i < total + k; i++) {
+            Check.due("outValue(" + i + ")", f.outValue(i), 100 + i);
+          }
+          total += k;
         }
-        total += k;
+        Check.step(f, k, len - total, len, 1);
+        Check.due("the last item stays", f.outValue(len - 1), len == 0 ? 0 : 99 + len);
+        Check.step(f, k, 0, len, 1);
       }
-      step(f, k, len - total, len, 1);
     }
+  }
+
+  private static void longestList(int mode) {
+    StreamFuse f = new StreamFuse(4, 4, 32);
+    f.start(Check.longest(f), mode);
+    for (int total = 32; total <= 128; total += 32) {
+      Check.step(f, 32, 32, total, 0);
+    }
+    Check.step(f, 32, 0, 128, 1);
+  }
+
+  private static void nothingChangesOnceEnded(int mode) {
+    StreamFuse f = new StreamFuse(4, 4, 8);
+    f.start(f.range(1, 5), mode);
+    f.run(6);
+    List<Integer> before = Check.seen(f);
+    for (int k : new int[] {Check.MIN, -1, 0, 1, 5, 8, 9, Check.MAX}) {
+      Check.due("run(" + k + ") once ended", f.run(k), 0);
+      Check.same("state after run(" + k + ") once ended", Check.seen(f), before);
+    }
+    Check.due("still active", f.query(StreamFuse.Q_ACTIVE), 1);
   }
 
   private static void emptyList(int mode) {
     StreamFuse f = new StreamFuse(4, 4, 8);
     f.start(f.range(1, 0), mode);
     Check.due("not ended before the attempt", f.query(StreamFuse.Q_ENDED), 0);
-    step(f, 0, 0, 0, 1);
-    step(f, 4, 0, 0, 1);
+    Check.step(f, 0, 0, 0, 1);
+    Check.step(f, 4, 0, 0, 1);
   }
 
   private static void stageCallsDuringRun(int mode) {
@@ -92,13 +122,13 @@ final class Promise14RunTest {
     f.range(90, 9);
     f.newExpr();
     f.tok(StreamFuse.OP_CONST, 6);
-    step(f, 2, 2, 3, 0);
+    Check.step(f, 2, 2, 3, 0);
     Check.due("outValue(0)", f.outValue(0), 1);
     Check.due("outValue(2)", f.outValue(2), 3);
     f.drop(1, 3);
-    step(f, 2, 1, 4, 1);
+    Check.step(f, 2, 1, 4, 1);
     Check.due("outValue(3)", f.outValue(3), 4);
     f.range(90, 9);
-    step(f, 2, 0, 4, 1);
+    Check.step(f, 2, 0, 4, 1);
   }
 }

@@ -28,15 +28,30 @@ final class Promise16QueryTest {
     all("after the end", f, 2, 4, 4, 1, 1, 1, 6, 1);
     f.start(0, StreamFuse.MODE_FUSED);
     all("replaced", f, 2, 4, 4, 1, 0, 0, 0, 0);
+    fullTables();
     Check.end();
+  }
+
+  private static void fullTables() {
+    StreamFuse f = new StreamFuse(16, 16, 32);
+    for (int e = 0; e < 16; e++) {
+      Check.expr(f, "x y + x y * + 3");
+      f.range(e, 1);
+    }
+    all("full tables", f, 16, 16, 128, 0, -1, -1, 0, 0);
+    f.start(15, StreamFuse.MODE_PULL);
+    f.run(32);
+    all("full tables and a run", f, 16, 16, 128, 1, 15, 1, 1, 1);
+    f.newExpr();
+    f.tok(StreamFuse.OP_X, 0);
+    f.range(0, 1);
+    all("full tables, refused calls", f, 16, 16, 128, 1, 15, 1, 1, 1);
   }
 
   private static void all(String when, StreamFuse f, int... want) {
     for (int round = 0; round < 2; round++) {
-      for (int q = 0; q < want.length; q++) {
-        Check.due(when + ", query(" + q + ")", f.query(q), want[q]);
-      }
-      for (int q : new int[] {Integer.MIN_VALUE, -2, -1, 8, 9, Integer.MAX_VALUE}) {
+      Check.queries(when, f, want);
+      for (int q : new int[] {Check.MIN, Check.MIN + 1, -2, -1, 8, 9, 16, Check.MAX - 1, Check.MAX}) {
         Check.due(when + ", query(" + q + ")", f.query(q), -1);
       }
     }
