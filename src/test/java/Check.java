@@ -52,11 +52,11 @@ final class Check {
     return f.concatMap(source, eight, number);
   }
 
-  /** The whole list of a node, read by a run of its own. */
+  /** The whole list of a node, read by a run of its own; one that did not end would show as too long. */
   static List<Integer> list(StreamFuse f, int node, int mode) {
     List<Integer> out = new ArrayList<>();
     f.start(node, mode);
-    while (f.run(1) == 1) {
+    while (out.size() <= 128 && f.run(1) == 1) {
       out.add(f.outValue(out.size()));
     }
     return out;

@@ -16,8 +16,9 @@ final class FaceTest {
     "Q_ACTIVE=3", "Q_ROOT=4", "Q_MODE=5", "Q_TOTAL=6", "Q_ENDED=7", "F_KIND=0", "F_SRC_A=1", "F_SRC_B=2",
     "F_EXPR1=3", "F_EXPR2=4", "F_PARAM1=5", "F_PARAM2=6", "F_CONSUMED=7", "F_LENGTH=8", "F_HAS_CM=9"};
   private static final String[] METHODS = {
-    "newExpr/0", "tok/2", "evalExpr/3", "range/2", "map/2", "filter/2", "scan/3", "zip/3", "take/2", "drop/2",
-    "concatMap/3", "start/2", "run/1", "outValue/1", "query/1", "nodeInfo/2"};
+    "newExpr()", "tok(int,int)", "evalExpr(int,int,int)", "range(int,int)", "map(int,int)", "filter(int,int)",
+    "scan(int,int,int)", "zip(int,int,int)", "take(int,int)", "drop(int,int)", "concatMap(int,int,int)",
+    "start(int,int)", "run(int)", "outValue(int)", "query(int)", "nodeInfo(int,int)"};
 
   public static void main(String[] args) throws Exception {
     Check.same("modifiers", Modifier.toString(StreamFuse.class.getModifiers()), "public final");
@@ -35,6 +36,7 @@ final class FaceTest {
     for (Field field : StreamFuse.class.getDeclaredFields()) {
       if (!isPrivate(field)) {
         Check.same(field.getName(), Modifier.toString(field.getModifiers()), "public static final");
+        Check.same(field.getName() + " type", field.getType(), int.class);
         got.add(field.getName() + "=" + field.getInt(null));
       }
     }
@@ -45,12 +47,14 @@ final class FaceTest {
     Set<String> got = new TreeSet<>();
     for (Method method : StreamFuse.class.getDeclaredMethods()) {
       if (!isPrivate(method)) {
-        Check.same(method.getName(), Modifier.toString(method.getModifiers()), "public");
-        Check.same(method.getName() + " type", method.getReturnType(), int.class);
-        got.add(method.getName() + "/" + method.getParameterCount());
+        got.add(method.toString());
       }
     }
-    Check.same("methods", got, new TreeSet<>(Set.of(METHODS)));
+    Set<String> want = new TreeSet<>();
+    for (String method : METHODS) {
+      want.add("public int StreamFuse." + method);
+    }
+    Check.same("methods", got, want);
   }
 
   private static boolean isPrivate(Member member) {

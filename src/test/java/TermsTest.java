@@ -69,10 +69,10 @@ final class TermsTest {
     int node = Check.longest(f);
     int x = Check.expr(f, "x");
     int y = Check.expr(f, "y");
-    while (node < 15) {
-      holdsOneTo128(f, node);
-      int n = node;
-      node = switch (n % 6) {
+    Check.due("the longest list's node", node, 1);
+    for (int n = 1; n < 15; n++) {
+      holdsOneTo128(f, n);
+      int made = switch (n % 6) {
         case 0 -> f.map(n, x);
         case 1 -> f.filter(n, x);
         case 2 -> f.scan(n, -1, y);
@@ -80,7 +80,7 @@ final class TermsTest {
         case 4 -> f.drop(n, 0);
         default -> f.take(n, Check.MAX);
       };
-      Check.due("the next node", node, n + 1);
+      Check.due("the next node", made, n + 1);
     }
     holdsOneTo128(f, 15);
   }
