@@ -34,6 +34,13 @@ final class Language extends TreePathScanner<Void, Void> {
       Modifier.FINAL);
   private static final Set<TypeKind> NUMBERS = Set.of(TypeKind.INT, TypeKind.LONG, TypeKind.SHORT, TypeKind.BYTE,
       TypeKind.CHAR, TypeKind.BOOLEAN);
+  /** What no class may hold at all, under the number of the rule. */
+  private static final Map<Integer, Set<Tree.Kind>> FORBIDDEN = Map.of(
+      2, Set.of(Tree.Kind.STRING_LITERAL, Tree.Kind.FLOAT_LITERAL, Tree.Kind.DOUBLE_LITERAL),
+      4, Set.of(Tree.Kind.NULL_LITERAL, Tree.Kind.NEW_CLASS),
+      6, Set.of(Tree.Kind.THROW, Tree.Kind.TRY, Tree.Kind.SYNCHRONIZED, Tree.Kind.ASSERT, Tree.Kind.INSTANCE_OF,
+          Tree.Kind.LAMBDA_EXPRESSION, Tree.Kind.MEMBER_REFERENCE),
+      8, Set.of(Tree.Kind.WHILE_LOOP, Tree.Kind.DO_WHILE_LOOP, Tree.Kind.ENHANCED_FOR_LOOP));
   private static final int MOST_PARAMETERS = 7;
   private static final int MOST_LINES = 60;
   private static final int MOST_DEPTH = 6;
@@ -102,6 +109,14 @@ final class Language extends TreePathScanner<Void, Void> {
 
   private static boolean isField(Element element) {
     return element != null && element.getKind() == ElementKind.FIELD;
+  }
+
+  @Override
+  public Void scan(Tree tree, Void none) {
+    if (tree != null) {
+      FORBIDDEN.forEach((rule, kinds) -> complainIf(kinds.contains(tree.getKind()), rule, "" + tree.getKind()));
+    }
+    return super.scan(tree, none);
   }
 
   @Override
@@ -192,14 +207,6 @@ final class Language extends TreePathScanner<Void, Void> {
   }
 
   @Override
-  public Void visitLiteral(LiteralTree tree, Void none) {
-    complainIf(tree.getKind() == Tree.Kind.NULL_LITERAL, 4, "null");
-    Object value = tree.getValue();
-    complainIf(value instanceof String || value instanceof Float || value instanceof Double, 2, "the literal " + tree);
-    return null;
-  }
-
-  @Override
   public Void visitIdentifier(IdentifierTree tree, Void none) {
     boolean isOurs = tree.getName().contentEquals("this") || tree.getName().contentEquals("super");
     complainIf(!isOurs && (element() == null || element().getKind().isClass()), 3, "the name " + tree);
@@ -255,12 +262,6 @@ final class Language extends TreePathScanner<Void, Void> {
   }
 
   @Override
-  public Void visitNewClass(NewClassTree tree, Void none) {
-    complain(4, "the object " + tree);
-    return super.visitNewClass(tree, none);
-  }
-
-  @Override
   public Void visitAssignment(AssignmentTree tree, Void none) {
     complainIf(isArray(typeOf(tree.getVariable())), 4, "an array is assigned: " + tree);
     return super.visitAssignment(tree, none);
@@ -297,66 +298,6 @@ final class Language extends TreePathScanner<Void, Void> {
   public Void visitTypeCast(TypeCastTree tree, Void none) {
     complainIf(!(tree.getType() instanceof PrimitiveTypeTree), 6, "the cast " + tree);
     return super.visitTypeCast(tree, none);
-  }
-
-  @Override
-  public Void visitThrow(ThrowTree tree, Void none) {
-    complain(6, "throw");
-    return null;
-  }
-
-  @Override
-  public Void visitTry(TryTree tree, Void none) {
-    complain(6, "try");
-    return scan(tree.getBlock(), none);
-  }
-
-  @Override
-  public Void visitSynchronized(SynchronizedTree tree, Void none) {
-    complain(6, "synchronized");
-    return scan(tree.getBlock(), none);
-  }
-
-  @Override
-  public Void visitAssert(AssertTree tree, Void none) {
-    complain(6, "assert");
-    return null;
-  }
-
-  @Override
-  public Void visitInstanceOf(InstanceOfTree tree, Void none) {
-    complain(6, "instanceof");
-    return null;
-  }
-
-  @Override
-  public Void visitLambdaExpression(LambdaExpressionTree tree, Void none) {
-    complain(6, "a lambda");
-    return null;
-  }
-
-  @Override
-  public Void visitMemberReference(MemberReferenceTree tree, Void none) {
-    complain(6, "a method reference");
-    return null;
-  }
-
-  @Override
-  public Void visitWhileLoop(WhileLoopTree tree, Void none) {
-    complain(8, "a while whose end is not a counter's");
-    return super.visitWhileLoop(tree, none);
-  }
-
-  @Override
-  public Void visitDoWhileLoop(DoWhileLoopTree tree, Void none) {
-    complain(8, "a do whose end is not a counter's");
-    return super.visitDoWhileLoop(tree, none);
-  }
-
-  @Override
-  public Void visitEnhancedForLoop(EnhancedForLoopTree tree, Void none) {
-    complain(8, "a for without a counter");
-    return super.visitEnhancedForLoop(tree, none);
   }
 
   @Override
