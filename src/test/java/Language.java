@@ -77,13 +77,9 @@ final class Language extends TreePathScanner<Void, Void> {
     return language.complaints;
   }
 
-  private void complain(int rule, String what) {
-    complaints.add(rule + ": " + what + (method.isEmpty() ? "" : " in " + method));
-  }
-
   private void complainIf(boolean broken, int rule, String what) {
     if (broken) {
-      complain(rule, what);
+      complaints.add(rule + ": " + what + (method.isEmpty() ? "" : " in " + method));
     }
   }
 
